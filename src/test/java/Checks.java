@@ -1,0 +1,44 @@
+import java.util.Objects;
+
+/** Counts the answers that are not as due; a test ends with exit code 1 if there was one. */
+final class Checks {
+    interface Call {
+        Object answer();
+    }
+
+    private static int made = 0;
+    private static int wrong = 0;
+
+    private Checks() {
+    }
+
+    static void due(String what, Object want, Call call) {
+        String got = told(call);
+        String due = String.valueOf(want);
+        made++;
+        if (!Objects.equals(due, got)) {
+            wrong++;
+            System.out.println(what + " answered " + got + ", due is " + due);
+        }
+    }
+
+    /** A machine's exception has another name than the document's, so that its name tells it. */
+    static void dueThrow(String what, Class<? extends RuntimeException> want, Call call) {
+        due(what, "throws." + want.getSimpleName(), call);
+    }
+
+    static String told(Call call) {
+        try {
+            return String.valueOf(call.answer());
+        } catch (RuntimeException e) {
+            return "throws." + e.getClass().getSimpleName();
+        }
+    }
+
+    static void finish(String name) {
+        System.out.println(name + ": " + made + " checks, " + wrong + " wrong");
+        if (wrong != 0) {
+            System.exit(1);
+        }
+    }
+}
