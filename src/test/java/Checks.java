@@ -22,7 +22,6 @@ final class Checks {
         }
     }
 
-    /** A machine's exception has another name than the document's, so that its name tells it. */
     static void dueThrow(String what, Class<? extends RuntimeException> want, Call call) {
         due(what, "throws." + want.getSimpleName(), call);
     }
@@ -31,8 +30,19 @@ final class Checks {
         try {
             return String.valueOf(call.answer());
         } catch (RuntimeException e) {
-            return "throws." + e.getClass().getSimpleName();
+            return (isThrownByCode(e) ? "throws." : "the machine or the library throws ")
+                    + e.getClass().getSimpleName();
         }
+    }
+
+    /** The machine and the library throw some of the document's exceptions too; that is no answer. */
+    private static boolean isThrownByCode(RuntimeException e) {
+        StackTraceElement[] trace = e.getStackTrace();
+        if (trace.length == 0 || "/ by zero".equals(e.getMessage())) {
+            return false;
+        }
+        String thrower = trace[0].getClassName();
+        return thrower.startsWith("Quizspool") || thrower.equals("Model");
     }
 
     static void finish(String name) {

@@ -34,6 +34,11 @@ public final class IndexTest {
         x.type(29);
         Checks.due("search of a word that no question has", 0, () -> x.search());
         Checks.dueThrow("hits of none", NO_SUCH, () -> x.hitAt(0));
+        Quizspool zero = Machines.withLevels(1);
+        zero.type(1);
+        Checks.due("search of 1 where there is 0 alone", 0, () -> zero.search());
+        zero.type(0);
+        Checks.due("search of 1 and 0", 1, () -> zero.search());
         Quizspool none = new Quizspool();
         none.type(0);
         Checks.due("search without questions", 0, () -> none.search());

@@ -49,14 +49,21 @@ public final class SumsTest {
 
     private static void promise37IsSound() {
         Checks.due("a new object is sound", true, () -> new Quizspool().isSound());
-        Checks.due("a used one is sound", true, () -> used().isSound());
+        Quizspool x = used();
+        Checks.due("a used one is sound", true, () -> x.isSound());
+        Checks.due("it stays sound", true, () -> x.isSound());
+        Quizspool y = heldFirst();
+        Checks.due("the first question held", true, () -> y.isSound());
+        Checks.due("the first question held still", true, () -> y.isSound());
     }
 
     /** No run of calls makes an object unsound, so these tests bend the state inside it. */
     private static void promise37FindsWrongLevels() throws ReflectiveOperationException {
-        Quizspool x = used();
-        setField(elements(x, "questions").get(3), "level", 91);
-        Checks.due("a level that no answers tell", false, () -> x.isSound());
+        for (int i = 0; i < 7; i++) {
+            Quizspool x = used();
+            setField(elements(x, "questions").get(i), "level", x.level(i) + 1);
+            Checks.due("a level that no answers tell, of " + i, false, () -> x.isSound());
+        }
     }
 
     private static void promise37FindsTwiceHeld() throws ReflectiveOperationException {
@@ -76,6 +83,10 @@ public final class SumsTest {
         Object fourth = elements(elements(w, "sheets").get(1), "questions").get(0);
         elements(elements(w, "sheets").get(0), "questions").add(fourth);
         Checks.due("on a printed sheet too", true, () -> w.isSound());
+        Quizspool v = heldFirst();
+        Object first = elements(elements(v, "sheets").get(0), "questions").get(0);
+        elements(elements(v, "plans").get(0), "held").set(0, first);
+        Checks.due("the first question held twice", false, () -> v.isSound());
     }
 
     private static void promise37FindsWrongPlans() throws ReflectiveOperationException {
@@ -90,6 +101,10 @@ public final class SumsTest {
         Object held = elements(elements(y, "plans").get(0), "held").get(0);
         setField(easy, "family", getField(held, "family"));
         Checks.due("a plan with twins", false, () -> y.isSound());
+        Quizspool z = heldFirst();
+        Object middle = elements(z, "questions").get(2);
+        elements(elements(z, "plans").get(0), "held").set(0, middle);
+        Checks.due("a plan with one of another kind alone", false, () -> z.isSound());
     }
 
     /** Sheets: 0 printed, 4 and 6 waiting, 1 cancelled. Plans: 2 held, 5 held, a dropped one. */
@@ -106,6 +121,14 @@ public final class SumsTest {
         x.plan(1, 'e', 2);
         x.drop(2);
         x.cancel(3);
+        return x;
+    }
+
+    /** The sheet 0 waits with the question 0, and the plan 0 holds the question 1. */
+    private static Quizspool heldFirst() {
+        Quizspool x = Machines.withLevels(10, 11, 50);
+        x.quiz(0, 1, 0, 0);
+        x.plan(0, 'e', 1);
         return x;
     }
 
