@@ -1,13 +1,5 @@
 /** Promises 1 to 10: a new object, the row, questions, twins, levels and kinds. */
 public final class BankTest {
-    private static final Class<IllegalArgumentException> ARGUMENT = IllegalArgumentException.class;
-    private static final Class<IllegalStateException> STATE = IllegalStateException.class;
-    private static final Class<IndexOutOfBoundsException> INDEX = IndexOutOfBoundsException.class;
-    private static final Class<UnsupportedOperationException> UNSUPPORTED =
-            UnsupportedOperationException.class;
-    private static final Class<java.util.NoSuchElementException> NO_SUCH =
-            java.util.NoSuchElementException.class;
-
     public static void main(String[] args) {
         promise1NewObject();
         promise2Type();
@@ -30,9 +22,9 @@ public final class BankTest {
         Checks.due("waiting of a new object", 0, () -> x.waiting());
         Checks.due("answers of a new object", 0, () -> x.answers());
         Checks.due("allLevels of a new object", 0L, () -> x.allLevels());
-        Checks.dueThrow("question of a new object", INDEX, () -> x.level(0));
-        Checks.dueThrow("plan of a new object", INDEX, () -> x.held(0));
-        Checks.dueThrow("sheet of a new object", INDEX, () -> x.size(0));
+        Checks.dueThrow("question of a new object", Checks.INDEX, () -> x.level(0));
+        Checks.dueThrow("plan of a new object", Checks.INDEX, () -> x.held(0));
+        Checks.dueThrow("sheet of a new object", Checks.INDEX, () -> x.size(0));
         Checks.due("jam of a new object", false, () -> x.setJam(false));
         Quizspool other = Machines.withLevels(1);
         Checks.due("another object has its own questions", 1L, () -> other.allLevels());
@@ -42,15 +34,15 @@ public final class BankTest {
     private static void promise2Type() {
         Quizspool x = new Quizspool();
         for (int word : new int[] {-1, 30, Integer.MIN_VALUE, Integer.MAX_VALUE}) {
-            Checks.dueThrow("type(" + word + ")", ARGUMENT, () -> x.type(word));
+            Checks.dueThrow("type(" + word + ")", Checks.ARGUMENT, () -> x.type(word));
         }
         int[] words = {0, 29, 29, 5, 0, 1};
         for (int i = 0; i < words.length; i++) {
             int word = words[i];
             Checks.due("type(" + word + ")", i + 1, () -> x.type(word));
         }
-        Checks.dueThrow("a seventh word", STATE, () -> x.type(3));
-        Checks.dueThrow("a seventh word that there is not", ARGUMENT, () -> x.type(30));
+        Checks.dueThrow("a seventh word", Checks.STATE, () -> x.type(3));
+        Checks.dueThrow("a seventh word that there is not", Checks.ARGUMENT, () -> x.type(30));
         Checks.due("the row behind the refusals", 6, () -> x.erase());
     }
 
@@ -64,17 +56,17 @@ public final class BankTest {
         Checks.due("type behind erase", 1, () -> x.type(9));
         x.add(3);
         Checks.due("the word behind erase", 9, () -> x.wordAt(0, 0));
-        Checks.dueThrow("erased words", NO_SUCH, () -> x.wordAt(0, 1));
+        Checks.dueThrow("erased words", Checks.NO_SUCH, () -> x.wordAt(0, 1));
     }
 
     private static void promise4Add() {
         Quizspool x = new Quizspool();
-        Checks.dueThrow("add(101) with an empty row", ARGUMENT, () -> x.add(101));
-        Checks.dueThrow("add(-1) with an empty row", ARGUMENT, () -> x.add(-1));
-        Checks.dueThrow("add(0) with an empty row", UNSUPPORTED, () -> x.add(0));
+        Checks.dueThrow("add(101) with an empty row", Checks.ARGUMENT, () -> x.add(101));
+        Checks.dueThrow("add(-1) with an empty row", Checks.ARGUMENT, () -> x.add(-1));
+        Checks.dueThrow("add(0) with an empty row", Checks.UNSUPPORTED, () -> x.add(0));
         x.type(2);
-        Checks.dueThrow("add(101)", ARGUMENT, () -> x.add(101));
-        Checks.dueThrow("add(MAX)", ARGUMENT, () -> x.add(Integer.MAX_VALUE));
+        Checks.dueThrow("add(101)", Checks.ARGUMENT, () -> x.add(101));
+        Checks.dueThrow("add(MAX)", Checks.ARGUMENT, () -> x.add(Integer.MAX_VALUE));
         Checks.due("add(0)", 0, () -> x.add(0));
         Checks.due("the row behind add", 0, () -> x.erase());
         x.type(3);
@@ -84,12 +76,12 @@ public final class BankTest {
             x.type(i % 30);
             Checks.due("add as number " + i, number, () -> x.add(50));
         }
-        Checks.dueThrow("a question beyond 40 with an empty row", UNSUPPORTED, () -> x.add(50));
+        Checks.dueThrow("a question beyond 40 with an empty row", Checks.UNSUPPORTED, () -> x.add(50));
         x.type(3);
-        Checks.dueThrow("a question beyond 40", STATE, () -> x.add(50));
-        Checks.dueThrow("a question beyond 40 of no level", ARGUMENT, () -> x.add(-1));
+        Checks.dueThrow("a question beyond 40", Checks.STATE, () -> x.add(50));
+        Checks.dueThrow("a question beyond 40 of no level", Checks.ARGUMENT, () -> x.add(-1));
         Checks.due("the row behind a refused add", 1, () -> x.erase());
-        Checks.dueThrow("number 40", INDEX, () -> x.level(40));
+        Checks.dueThrow("number 40", Checks.INDEX, () -> x.level(40));
         Checks.due("all levels behind the refusals", 100L + 38 * 50, () -> x.allLevels());
     }
 
@@ -104,12 +96,12 @@ public final class BankTest {
 
     private static void promise5Twin() {
         Quizspool x = Machines.withLevels(1, 2, 3, 4, 5);
-        Checks.dueThrow("twin(0, 5)", INDEX, () -> x.twin(0, 5));
-        Checks.dueThrow("twin(5, 0)", INDEX, () -> x.twin(5, 0));
-        Checks.dueThrow("twin(-1, 0)", INDEX, () -> x.twin(-1, 0));
-        Checks.dueThrow("twin(-1, -1)", INDEX, () -> x.twin(-1, -1));
-        Checks.dueThrow("twin(7, 7)", INDEX, () -> x.twin(7, 7));
-        Checks.dueThrow("twin(2, 2)", ARGUMENT, () -> x.twin(2, 2));
+        Checks.dueThrow("twin(0, 5)", Checks.INDEX, () -> x.twin(0, 5));
+        Checks.dueThrow("twin(5, 0)", Checks.INDEX, () -> x.twin(5, 0));
+        Checks.dueThrow("twin(-1, 0)", Checks.INDEX, () -> x.twin(-1, 0));
+        Checks.dueThrow("twin(-1, -1)", Checks.INDEX, () -> x.twin(-1, -1));
+        Checks.dueThrow("twin(7, 7)", Checks.INDEX, () -> x.twin(7, 7));
+        Checks.dueThrow("twin(2, 2)", Checks.ARGUMENT, () -> x.twin(2, 2));
         Checks.due("twin(0, 1)", 1, () -> x.twin(0, 1));
         Checks.due("twin(1, 0) again", 1, () -> x.twin(1, 0));
         Checks.due("twin(2, 3)", 1, () -> x.twin(2, 3));
@@ -120,9 +112,9 @@ public final class BankTest {
 
     private static void promise6AreTwins() {
         Quizspool x = Machines.withLevels(1, 50, 90, 4);
-        Checks.dueThrow("areTwins(0, 4)", INDEX, () -> x.areTwins(0, 4));
-        Checks.dueThrow("areTwins(4, 0)", INDEX, () -> x.areTwins(4, 0));
-        Checks.dueThrow("areTwins(-1, -1)", INDEX, () -> x.areTwins(-1, -1));
+        Checks.dueThrow("areTwins(0, 4)", Checks.INDEX, () -> x.areTwins(0, 4));
+        Checks.dueThrow("areTwins(4, 0)", Checks.INDEX, () -> x.areTwins(4, 0));
+        Checks.dueThrow("areTwins(-1, -1)", Checks.INDEX, () -> x.areTwins(-1, -1));
         Checks.due("areTwins(0, 1) first", false, () -> x.areTwins(0, 1));
         x.twin(0, 1);
         x.twin(2, 1);
@@ -144,11 +136,11 @@ public final class BankTest {
             Checks.due("wordAt(1, " + i + ")", words[i], () -> x.wordAt(1, index));
         }
         Checks.due("wordAt(0, 0)", 7, () -> x.wordAt(0, 0));
-        Checks.dueThrow("wordAt(0, 1)", NO_SUCH, () -> x.wordAt(0, 1));
-        Checks.dueThrow("wordAt(0, -1)", NO_SUCH, () -> x.wordAt(0, -1));
-        Checks.dueThrow("wordAt(1, 6)", NO_SUCH, () -> x.wordAt(1, 6));
-        Checks.dueThrow("wordAt(2, 0)", INDEX, () -> x.wordAt(2, 0));
-        Checks.dueThrow("wordAt(-1, -1)", INDEX, () -> x.wordAt(-1, -1));
+        Checks.dueThrow("wordAt(0, 1)", Checks.NO_SUCH, () -> x.wordAt(0, 1));
+        Checks.dueThrow("wordAt(0, -1)", Checks.NO_SUCH, () -> x.wordAt(0, -1));
+        Checks.dueThrow("wordAt(1, 6)", Checks.NO_SUCH, () -> x.wordAt(1, 6));
+        Checks.dueThrow("wordAt(2, 0)", Checks.INDEX, () -> x.wordAt(2, 0));
+        Checks.dueThrow("wordAt(-1, -1)", Checks.INDEX, () -> x.wordAt(-1, -1));
         x.type(11);
         Checks.due("wordAt when the row changes", 29, () -> x.wordAt(1, 0));
     }
@@ -158,8 +150,8 @@ public final class BankTest {
         Checks.due("level(0)", 0, () -> x.level(0));
         Checks.due("level(1)", 100, () -> x.level(1));
         Checks.due("level(2)", 34, () -> x.level(2));
-        Checks.dueThrow("level(3)", INDEX, () -> x.level(3));
-        Checks.dueThrow("level(-1)", INDEX, () -> x.level(-1));
+        Checks.dueThrow("level(3)", Checks.INDEX, () -> x.level(3));
+        Checks.dueThrow("level(-1)", Checks.INDEX, () -> x.level(-1));
         x.quiz(0, 0, 1, 0);
         x.print();
         x.answer(0, 0, false);
@@ -168,8 +160,8 @@ public final class BankTest {
 
     private static void promise9LevelAnew() {
         Quizspool x = Machines.withLevels(50, 20);
-        Checks.dueThrow("levelAnew(2)", INDEX, () -> x.levelAnew(2));
-        Checks.dueThrow("levelAnew(-1)", INDEX, () -> x.levelAnew(-1));
+        Checks.dueThrow("levelAnew(2)", Checks.INDEX, () -> x.levelAnew(2));
+        Checks.dueThrow("levelAnew(-1)", Checks.INDEX, () -> x.levelAnew(-1));
         Checks.due("levelAnew(0) first", 50, () -> x.levelAnew(0));
         for (int i = 0; i < 3; i++) {
             x.quiz(0, 0, 1, 0);
@@ -195,8 +187,8 @@ public final class BankTest {
             int question = i;
             Checks.due("kind(" + i + ")", kinds.charAt(i), () -> x.kind(question));
         }
-        Checks.dueThrow("kind(6)", INDEX, () -> x.kind(6));
-        Checks.dueThrow("kind(-1)", INDEX, () -> x.kind(-1));
+        Checks.dueThrow("kind(6)", Checks.INDEX, () -> x.kind(6));
+        Checks.dueThrow("kind(-1)", Checks.INDEX, () -> x.kind(-1));
         x.quiz(0, 0, 0, 1);
         x.print();
         x.answer(0, 0, true);

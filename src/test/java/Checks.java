@@ -1,7 +1,16 @@
+import java.util.NoSuchElementException;
 import java.util.Objects;
 
 /** Counts the answers that are not as due; a test ends with exit code 1 if there was one. */
 final class Checks {
+    static final Class<IllegalArgumentException> ARGUMENT = IllegalArgumentException.class;
+    static final Class<IllegalStateException> STATE = IllegalStateException.class;
+    static final Class<IndexOutOfBoundsException> INDEX = IndexOutOfBoundsException.class;
+    static final Class<ArithmeticException> ARITHMETIC = ArithmeticException.class;
+    static final Class<NoSuchElementException> NO_SUCH = NoSuchElementException.class;
+    static final Class<UnsupportedOperationException> UNSUPPORTED =
+            UnsupportedOperationException.class;
+
     interface Call {
         Object answer();
     }

@@ -1,8 +1,5 @@
 /** Promises 11 to 13: searches, their hits and ranks. */
 public final class IndexTest {
-    private static final Class<java.util.NoSuchElementException> NO_SUCH =
-            java.util.NoSuchElementException.class;
-
     public static void main(String[] args) {
         promise11Search();
         promise12HitAt();
@@ -24,8 +21,7 @@ public final class IndexTest {
 
     private static void promise11Search() {
         Quizspool x = bank();
-        Checks.dueThrow("search of an empty row", UnsupportedOperationException.class,
-                () -> x.search());
+        Checks.dueThrow("search of an empty row", Checks.UNSUPPORTED, () -> x.search());
         x.type(5);
         Checks.due("search 5", 4, () -> x.search());
         x.type(3);
@@ -33,7 +29,7 @@ public final class IndexTest {
         Checks.due("the row behind the search", 2, () -> x.erase());
         x.type(29);
         Checks.due("search of a word that no question has", 0, () -> x.search());
-        Checks.dueThrow("hits of none", NO_SUCH, () -> x.hitAt(0));
+        Checks.dueThrow("hits of none", Checks.NO_SUCH, () -> x.hitAt(0));
         Quizspool zero = Machines.withLevels(1);
         zero.type(1);
         Checks.due("search of 1 where there is 0 alone", 0, () -> zero.search());
@@ -46,7 +42,7 @@ public final class IndexTest {
 
     private static void promise12HitAt() {
         Quizspool x = bank();
-        Checks.dueThrow("hitAt(0) before a search", NO_SUCH, () -> x.hitAt(0));
+        Checks.dueThrow("hitAt(0) before a search", Checks.NO_SUCH, () -> x.hitAt(0));
         x.type(5);
         x.type(3);
         x.search();
@@ -55,13 +51,13 @@ public final class IndexTest {
             int index = i;
             Checks.due("hitAt(" + i + ")", hits[i], () -> x.hitAt(index));
         }
-        Checks.dueThrow("hitAt(5)", NO_SUCH, () -> x.hitAt(5));
-        Checks.dueThrow("hitAt(-1)", NO_SUCH, () -> x.hitAt(-1));
+        Checks.dueThrow("hitAt(5)", Checks.NO_SUCH, () -> x.hitAt(5));
+        Checks.dueThrow("hitAt(-1)", Checks.NO_SUCH, () -> x.hitAt(-1));
     }
 
     private static void promise13RankAt() {
         Quizspool x = bank();
-        Checks.dueThrow("rankAt(0) before a search", NO_SUCH, () -> x.rankAt(0));
+        Checks.dueThrow("rankAt(0) before a search", Checks.NO_SUCH, () -> x.rankAt(0));
         for (int word : new int[] {5, 3, 5, 5}) {
             x.type(word);
         }
@@ -71,8 +67,8 @@ public final class IndexTest {
             int index = i;
             Checks.due("rankAt(" + i + ")", ranks[i], () -> x.rankAt(index));
         }
-        Checks.dueThrow("rankAt(5)", NO_SUCH, () -> x.rankAt(5));
-        Checks.dueThrow("rankAt(-1)", NO_SUCH, () -> x.rankAt(-1));
+        Checks.dueThrow("rankAt(5)", Checks.NO_SUCH, () -> x.rankAt(5));
+        Checks.dueThrow("rankAt(-1)", Checks.NO_SUCH, () -> x.rankAt(-1));
         x.erase();
         for (int word : new int[] {0, 1, 2, 28, 29, 3}) {
             x.type(word);
@@ -91,12 +87,11 @@ public final class IndexTest {
         x.type(7);
         x.search();
         x.erase();
-        Checks.dueThrow("a search that is refused", UnsupportedOperationException.class,
-                () -> x.search());
+        Checks.dueThrow("a search that is refused", Checks.UNSUPPORTED, () -> x.search());
         Machines.addQuestion(x, 1, 7, 7, 7);
         x.type(3);
         Checks.due("the hit stays", 2, () -> x.hitAt(0));
         Checks.due("its rank stays", 11, () -> x.rankAt(0));
-        Checks.dueThrow("a later question is no hit", NO_SUCH, () -> x.hitAt(1));
+        Checks.dueThrow("a later question is no hit", Checks.NO_SUCH, () -> x.hitAt(1));
     }
 }

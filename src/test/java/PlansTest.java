@@ -1,13 +1,5 @@
 /** Promises 14 to 21: weeks, plans and what they hold, free questions. */
 public final class PlansTest {
-    private static final Class<IllegalArgumentException> ARGUMENT = IllegalArgumentException.class;
-    private static final Class<IllegalStateException> STATE = IllegalStateException.class;
-    private static final Class<IndexOutOfBoundsException> INDEX = IndexOutOfBoundsException.class;
-    private static final Class<UnsupportedOperationException> UNSUPPORTED =
-            UnsupportedOperationException.class;
-    private static final Class<java.util.NoSuchElementException> NO_SUCH =
-            java.util.NoSuchElementException.class;
-
     public static void main(String[] args) {
         promise14And15Weeks();
         promise15LastWeek();
@@ -38,7 +30,7 @@ public final class PlansTest {
             x.nextWeek();
         }
         Checks.due("the last week", 999, () -> x.week());
-        Checks.dueThrow("nextWeek() of the week 999", STATE, () -> x.nextWeek());
+        Checks.dueThrow("nextWeek() of the week 999", Checks.STATE, () -> x.nextWeek());
         Checks.due("the last week stays", 999, () -> x.week());
         Checks.due("a plan for the last week", 0, () -> x.plan(999, 'e', 1));
     }
@@ -52,9 +44,9 @@ public final class PlansTest {
         Checks.due("the past plan", 0, () -> x.held(0));
         Checks.due("the past plan lacks none", 0, () -> x.lacks(0));
         Checks.due("the later plan takes behind what it has", "2 0 1", () -> Machines.heldBy(x, 1));
-        Checks.dueThrow("a quiz of a past plan", UNSUPPORTED, () -> x.quizOf(0));
+        Checks.dueThrow("a quiz of a past plan", Checks.UNSUPPORTED, () -> x.quizOf(0));
         Checks.due("a past plan can be dropped", 0, () -> x.drop(0));
-        Checks.dueThrow("but once", UNSUPPORTED, () -> x.drop(0));
+        Checks.dueThrow("but once", Checks.UNSUPPORTED, () -> x.drop(0));
         x.nextWeek();
         Checks.due("all free", "111", () -> Machines.freeOnes(x, 3));
     }
@@ -72,23 +64,23 @@ public final class PlansTest {
             Checks.due("plan " + i, number, () -> x.plan(7, 'h', 1));
         }
         x.drop(2);
-        Checks.dueThrow("a plan beyond 12, one dropped", STATE, () -> x.plan(7, 'h', 1));
-        Checks.dueThrow("a plan beyond 12 of no kind", ARGUMENT, () -> x.plan(7, 'x', 1));
-        Checks.dueThrow("the plan 12", INDEX, () -> x.held(12));
+        Checks.dueThrow("a plan beyond 12, one dropped", Checks.STATE, () -> x.plan(7, 'h', 1));
+        Checks.dueThrow("a plan beyond 12 of no kind", Checks.ARGUMENT, () -> x.plan(7, 'x', 1));
+        Checks.dueThrow("the plan 12", Checks.INDEX, () -> x.held(12));
     }
 
     private static void promise16RefusedPlans() {
         Quizspool x = Machines.withLevels(0);
         x.nextWeek();
-        Checks.dueThrow("a past week", ARGUMENT, () -> x.plan(0, 'e', 1));
-        Checks.dueThrow("a negative week", ARGUMENT, () -> x.plan(-1, 'e', 1));
-        Checks.dueThrow("the week 1000", ARGUMENT, () -> x.plan(1000, 'e', 1));
-        Checks.dueThrow("the kind E", ARGUMENT, () -> x.plan(1, 'E', 1));
-        Checks.dueThrow("the kind 0", ARGUMENT, () -> x.plan(1, (char) 0, 1));
-        Checks.dueThrow("the kind 65535", ARGUMENT, () -> x.plan(1, (char) 65535, 1));
-        Checks.dueThrow("for 0", ARGUMENT, () -> x.plan(1, 'e', 0));
-        Checks.dueThrow("for -1", ARGUMENT, () -> x.plan(1, 'e', -1));
-        Checks.dueThrow("for 10", ARGUMENT, () -> x.plan(1, 'e', 10));
+        Checks.dueThrow("a past week", Checks.ARGUMENT, () -> x.plan(0, 'e', 1));
+        Checks.dueThrow("a negative week", Checks.ARGUMENT, () -> x.plan(-1, 'e', 1));
+        Checks.dueThrow("the week 1000", Checks.ARGUMENT, () -> x.plan(1000, 'e', 1));
+        Checks.dueThrow("the kind E", Checks.ARGUMENT, () -> x.plan(1, 'E', 1));
+        Checks.dueThrow("the kind 0", Checks.ARGUMENT, () -> x.plan(1, (char) 0, 1));
+        Checks.dueThrow("the kind 65535", Checks.ARGUMENT, () -> x.plan(1, (char) 65535, 1));
+        Checks.dueThrow("for 0", Checks.ARGUMENT, () -> x.plan(1, 'e', 0));
+        Checks.dueThrow("for -1", Checks.ARGUMENT, () -> x.plan(1, 'e', -1));
+        Checks.dueThrow("for 10", Checks.ARGUMENT, () -> x.plan(1, 'e', 10));
         Checks.due("refused plans take none", true, () -> x.isFree(0));
         Checks.due("the first plan", 0, () -> x.plan(1, 'e', 1));
     }
@@ -100,17 +92,17 @@ public final class PlansTest {
         x.plan(0, 'h', 1);
         Checks.due("drop a plan with two", 2, () -> x.drop(0));
         Checks.due("it holds nothing", 0, () -> x.held(0));
-        Checks.dueThrow("nothing to look at", NO_SUCH, () -> x.heldAt(0, 0));
+        Checks.dueThrow("nothing to look at", Checks.NO_SUCH, () -> x.heldAt(0, 0));
         Checks.due("the other takes one", "2 0", () -> Machines.heldBy(x, 1));
         Checks.due("one is free", "0101", () -> Machines.freeOnes(x, 4));
         Checks.due("drop a plan without any", 0, () -> x.drop(2));
-        Checks.dueThrow("drop again", UNSUPPORTED, () -> x.drop(0));
-        Checks.dueThrow("drop(3)", INDEX, () -> x.drop(3));
-        Checks.dueThrow("drop(-1)", INDEX, () -> x.drop(-1));
+        Checks.dueThrow("drop again", Checks.UNSUPPORTED, () -> x.drop(0));
+        Checks.dueThrow("drop(3)", Checks.INDEX, () -> x.drop(3));
+        Checks.dueThrow("drop(-1)", Checks.INDEX, () -> x.drop(-1));
         Machines.addQuestion(x, 70, 1);
         Checks.due("a dropped plan takes none", 0, () -> x.held(2));
         x.nextWeek();
-        Checks.dueThrow("quizOf a dropped plan", UNSUPPORTED, () -> x.quizOf(0));
+        Checks.dueThrow("quizOf a dropped plan", Checks.UNSUPPORTED, () -> x.quizOf(0));
     }
 
     private static void promise18And19HeldInTheOrderTaken() {
@@ -123,12 +115,12 @@ public final class PlansTest {
         Checks.due("held(0) behind the cancel", 2, () -> x.held(0));
         Checks.due("the one taken first is first", 1, () -> x.heldAt(0, 0));
         Checks.due("the one taken last is last", 0, () -> x.heldAt(0, 1));
-        Checks.dueThrow("heldAt(0, 2)", NO_SUCH, () -> x.heldAt(0, 2));
-        Checks.dueThrow("heldAt(0, -1)", NO_SUCH, () -> x.heldAt(0, -1));
-        Checks.dueThrow("heldAt(1, 0)", INDEX, () -> x.heldAt(1, 0));
-        Checks.dueThrow("heldAt(-1, 0)", INDEX, () -> x.heldAt(-1, 0));
-        Checks.dueThrow("held(1)", INDEX, () -> x.held(1));
-        Checks.dueThrow("held(-1)", INDEX, () -> x.held(-1));
+        Checks.dueThrow("heldAt(0, 2)", Checks.NO_SUCH, () -> x.heldAt(0, 2));
+        Checks.dueThrow("heldAt(0, -1)", Checks.NO_SUCH, () -> x.heldAt(0, -1));
+        Checks.dueThrow("heldAt(1, 0)", Checks.INDEX, () -> x.heldAt(1, 0));
+        Checks.dueThrow("heldAt(-1, 0)", Checks.INDEX, () -> x.heldAt(-1, 0));
+        Checks.dueThrow("held(1)", Checks.INDEX, () -> x.held(1));
+        Checks.dueThrow("held(-1)", Checks.INDEX, () -> x.held(-1));
     }
 
     private static void promise20Lacks() {
@@ -139,8 +131,8 @@ public final class PlansTest {
         Checks.due("lacks(0)", 7, () -> x.lacks(0));
         Checks.due("lacks(1)", 0, () -> x.lacks(1));
         Checks.due("lacks(2)", 4, () -> x.lacks(2));
-        Checks.dueThrow("lacks(3)", INDEX, () -> x.lacks(3));
-        Checks.dueThrow("lacks(-1)", INDEX, () -> x.lacks(-1));
+        Checks.dueThrow("lacks(3)", Checks.INDEX, () -> x.lacks(3));
+        Checks.dueThrow("lacks(-1)", Checks.INDEX, () -> x.lacks(-1));
         x.nextWeek();
         Checks.due("lacks of a past plan", 0, () -> x.lacks(0));
         Checks.due("lacks of a plan of this week", 4, () -> x.lacks(2));
@@ -150,8 +142,8 @@ public final class PlansTest {
 
     private static void promise21IsFree() {
         Quizspool x = Machines.withLevels(1, 50, 90);
-        Checks.dueThrow("isFree(3)", INDEX, () -> x.isFree(3));
-        Checks.dueThrow("isFree(-1)", INDEX, () -> x.isFree(-1));
+        Checks.dueThrow("isFree(3)", Checks.INDEX, () -> x.isFree(3));
+        Checks.dueThrow("isFree(-1)", Checks.INDEX, () -> x.isFree(-1));
         Checks.due("all free first", "111", () -> Machines.freeOnes(x, 3));
         x.plan(1, 'h', 1);
         x.quiz(0, 1, 0, 0);

@@ -3,8 +3,6 @@ import java.util.List;
 
 /** Promises 33 to 37: answers, sums, shares and isSound. */
 public final class SumsTest {
-    private static final Class<ArithmeticException> ARITHMETIC = ArithmeticException.class;
-
     public static void main(String[] args) throws ReflectiveOperationException {
         promise33And35Answers();
         promise34And36Levels();
@@ -18,7 +16,7 @@ public final class SumsTest {
     private static void promise33And35Answers() {
         Quizspool x = Machines.withLevels(1, 2, 3);
         Checks.due("answers()", 0, () -> x.answers());
-        Checks.dueThrow("rightShare() of none", ARITHMETIC, () -> x.rightShare());
+        Checks.dueThrow("rightShare() of none", Checks.ARITHMETIC, () -> x.rightShare());
         x.quiz(0, 3, 0, 0);
         x.print();
         x.answer(0, 0, false);
@@ -33,7 +31,7 @@ public final class SumsTest {
     private static void promise34And36Levels() {
         Quizspool x = new Quizspool();
         Checks.due("allLevels() of none", 0L, () -> x.allLevels());
-        Checks.dueThrow("meanLevel() of none", ARITHMETIC, () -> x.meanLevel());
+        Checks.dueThrow("meanLevel() of none", Checks.ARITHMETIC, () -> x.meanLevel());
         Machines.addQuestion(x, 0, 1);
         Checks.due("the mean of 0", 0.0, () -> x.meanLevel());
         Machines.addQuestion(x, 100, 1);
